@@ -224,7 +224,7 @@ public final class RainWheel {
     public int line(int line, int what) throws NoSuchElementException, IllegalArgumentException {
         needElement(line, plan.lines);
         needRange(what, 0, 4);
-        course.goAsTold(road, law, plan);
+        followPlan();
         switch (what) {
             case 0:
                 return plan.deeds[line];
@@ -239,25 +239,30 @@ public final class RainWheel {
         }
     }
 
+    private void followPlan() {
+        course.keepAsTold();
+        course.go(road, law, plan);
+    }
+
     public int span() {
-        course.goAsTold(road, law, plan);
+        followPlan();
         return course.latest;
     }
 
     public int wet(int person) throws NoSuchElementException {
         needElement(person, road.people());
-        course.goAsTold(road, law, plan);
+        followPlan();
         return course.wetness[person];
     }
 
     public int idle(int person) throws NoSuchElementException {
         needElement(person, road.people());
-        course.goAsTold(road, law, plan);
+        followPlan();
         return course.latest - course.busy[person];
     }
 
     public int umbrella() {
-        course.goAsTold(road, law, plan);
+        followPlan();
         int wettest = NONE;
         int most = 0;
         for (int person = 0; person < MOST_PEOPLE; person++) {
@@ -289,13 +294,14 @@ public final class RainWheel {
         if (line == NONE) {
             return NONE;
         }
-        course.goAsTold(road, law, plan);
+        followPlan();
         if (course.begins[line] == NONE) {
             return NONE;
         }
         int told = course.latest;
         for (int more = 1; more <= most; more++) {
-            course.goStretched(road, law, plan, line, more);
+            course.lengthen(line, more);
+            course.go(road, law, plan);
             if (course.latest > told) {
                 return more - 1;
             }
@@ -516,7 +522,8 @@ public final class RainWheel {
 
     public int evening(int seed, int what) throws IllegalArgumentException {
         needRange(what, 0, 2);
-        course.goByChance(road, law, plan, seed);
+        course.leaveToChance(road.loses, seed);
+        course.go(road, law, plan);
         switch (what) {
             case 0:
                 return course.latest;
@@ -535,7 +542,8 @@ public final class RainWheel {
         int together = 0;
         int unspoilt = 0;
         for (int k = 0; k < many; k++) {
-            course.goByChance(road, law, plan, seed + k);
+            course.leaveToChance(road.loses, seed + k);
+            course.go(road, law, plan);
             least = Math.min(least, course.latest);
             greatest = Math.max(greatest, course.latest);
             together += course.latest;
@@ -985,7 +993,9 @@ public final class RainWheel {
             int from = tape.readNumber(0, LAST_MINUTE);
             int to = tape.readNumber(from, LAST_MINUTE);
             if (tape.isSound()) {
-                Arrays.fill(rainAhead, from + 1, to + 2, 1);
+                for (int minute = from; minute <= to; minute++) {
+                    rainAhead[minute + 1] = 1;
+                }
             }
         }
 
@@ -1028,11 +1038,11 @@ public final class RainWheel {
 
         /** How many minutes it rains from one minute to ahead of another. */
         int rainMinutes(int from, int to) {
-            return rainUpTo(to) - rainUpTo(from);
-        }
-
-        private int rainUpTo(int minute) {
-            return rainAhead[Math.max(0, Math.min(minute, LAST_MINUTE + 1))];
+            if (from < 0 || to < from) {
+                return 0;
+            }
+            int dry = LAST_MINUTE + 1;
+            return rainAhead[Math.min(to, dry)] - rainAhead[Math.min(from, dry)];
         }
 
         int wetMinutes(int deed, int from, int to) {
@@ -1052,6 +1062,36 @@ public final class RainWheel {
         private boolean canDo(int bits, int deed) {
             return Integer.bitCount(bits) == deedFacts[HANDS][deed]
                 && strengthOf(bits) >= deedFacts[STRENGTH][deed];
+        }
+
+        /** Whether for each deed there are people who can do it: else every plan of all deeds is blocked. */
+        boolean canAllBeDone() {
+            for (int deed = 0; deed < deeds(); deed++) {
+                boolean found = false;
+                for (int bits = 1; bits < 1 << people() && !found; bits++) {
+                    found = canDo(bits, deed);
+                }
+                if (!found) {
+                    return false;
+                }
+            }
+            return true;
+        }
+
+        /** Whether two people may always change places, by what they can do and, if that counts, by their strength. */
+        boolean areAlike(int person, int other, boolean strengthCounts) {
+            if (strengthCounts || strong[person] == strong[other]) {
+                return strong[person] == strong[other];
+            }
+            int both = 1 << person | 1 << other;
+            for (int deed = 0; deed < deeds(); deed++) {
+                for (int bits = 1; bits < 1 << people(); bits++) {
+                    if (Integer.bitCount(bits & both) == 1 && canDo(bits, deed) != canDo(bits ^ both, deed)) {
+                        return false;
+                    }
+                }
+            }
+            return true;
         }
 
         /** The minute in which people can begin a deed, by the ends of deeds and of people's lines; NONE: it is blocked. */
@@ -1099,6 +1139,7 @@ public final class RainWheel {
         // A step below FACTS is a number; from FACTS on it is one of the six facts, from ADD on it joins two values.
         private static final int FACTS = 1000;
         private static final int FACT_COUNT = 6;
+        private static final int STRONG = 1002;
         private static final int ADD = 1006;
         private static final int SUBTRACT = 1007;
         private static final int MULTIPLY = 1008;
@@ -1247,6 +1288,15 @@ public final class RainWheel {
                 road.strengthOf(people), rain, begin, road.deedFacts[OUT][deed]);
         }
 
+        boolean asksForStrength() {
+            for (int k = 0; k < length; k++) {
+                if (steps[k] == STRONG) {
+                    return true;
+                }
+            }
+            return false;
+        }
+
         private int value() {
             int top = 0;
             for (int k = 0; k < length; k++) {
@@ -1275,9 +1325,9 @@ public final class RainWheel {
                 case DIVIDE:
                     return right == 0 ? 0 : left / right;
                 case LEAST:
-                    return Math.min(left, right);
+                    return left < right ? left : right;
                 default:
-                    return Math.max(left, right);
+                    return left > right ? left : right;
             }
         }
     }
@@ -1440,33 +1490,34 @@ public final class RainWheel {
     private static final class Course {
         private final int[] deedEnds = new int[MOST_DEEDS];
         private final int[] peopleEnds = new int[MOST_PEOPLE];
-        private int stretchedLine;
-        private int stretch;
-        private int spoils;
-        private int seed;
+        private int longerLine = NONE;
+        private int longerBy = 0;
+        private int spoils = 0;
+        private int seed = 0;
         final int[] begins = new int[MOST_DEEDS];
         final int[] ends = new int[MOST_DEEDS];
         final int[] busy = new int[MOST_PEOPLE];
         final int[] wetness = new int[MOST_PEOPLE];
-        int latest;
-        int again;
+        int latest = 0;
+        int again = 0;
 
-        void goAsTold(Road road, Law law, Plan plan) {
-            goStretched(road, law, plan, NONE, 0);
-        }
-
-        void goStretched(Road road, Law law, Plan plan, int line, int more) {
-            stretchedLine = line;
-            stretch = more;
+        void keepAsTold() {
+            longerLine = NONE;
+            longerBy = 0;
             spoils = 0;
-            go(road, law, plan);
         }
 
-        void goByChance(Road road, Law law, Plan plan, int firstSeed) {
-            stretchedLine = NONE;
-            spoils = road.loses;
+        void lengthen(int line, int more) {
+            longerLine = line;
+            longerBy = more;
+            spoils = 0;
+        }
+
+        void leaveToChance(int of16, int firstSeed) {
+            longerLine = NONE;
+            longerBy = 0;
+            spoils = of16;
             seed = firstSeed;
-            go(road, law, plan);
         }
 
         int wetOfAll() {
@@ -1477,7 +1528,7 @@ public final class RainWheel {
             return all;
         }
 
-        private void go(Road road, Law law, Plan plan) {
+        void go(Road road, Law law, Plan plan) {
             Arrays.fill(deedEnds, NONE);
             Arrays.fill(peopleEnds, 0);
             Arrays.fill(busy, 0);
@@ -1504,7 +1555,7 @@ public final class RainWheel {
                 again++;
                 return 2 * once;
             }
-            return line == stretchedLine ? once + stretch : once;
+            return line == longerLine ? once + longerBy : once;
         }
 
         private int draw() {
@@ -1533,6 +1584,8 @@ public final class RainWheel {
         private final int[][] peopleEnds = new int[SOONEST_DEEDS + 1][MOST_PEOPLE];
         private final int[] spans = new int[SOONEST_DEEDS + 1];
         private final int[] wets = new int[SOONEST_DEEDS + 1];
+        // For each person, as bits, the people of lower numbers who may always change places with that one.
+        private final int[] twins = new int[MOST_PEOPLE];
         private boolean known = false;
         int span = NONE;
         int wetness = NONE;
@@ -1553,8 +1606,22 @@ public final class RainWheel {
             span = NONE;
             wetness = NONE;
             Arrays.fill(deedEnds, NONE);
-            extend(road, law, 0);
+            findTwins(road, law.asksForStrength());
+            if (road.canAllBeDone()) {
+                extend(road, law, 0);
+            }
             known = true;
+        }
+
+        private void findTwins(Road road, boolean strengthCounts) {
+            for (int person = 0; person < road.people(); person++) {
+                twins[person] = 0;
+                for (int other = 0; other < person; other++) {
+                    if (road.areAlike(person, other, strengthCounts)) {
+                        twins[person] |= 1 << other;
+                    }
+                }
+            }
         }
 
         private void extend(Road road, Law law, int depth) {
@@ -1576,8 +1643,11 @@ public final class RainWheel {
 
         /** Puts a line at a depth, unless it is blocked or can't lead to a plan that is better than the best. */
         private boolean place(Road road, Law law, int depth, int deed, int bits) {
+            if (couldStandAhead(road, depth, deed, bits) || couldBeTwin(road, depth, bits)) {
+                return false;
+            }
             int begin = road.earliest(deed, bits, deedEnds, peopleEnds[depth]);
-            if (begin == NONE || stoodAhead(road, depth, deed, bits)) {
+            if (begin == NONE) {
                 return false;
             }
             int end = begin + law.lastsFor(road, deed, bits, begin);
@@ -1595,8 +1665,23 @@ public final class RainWheel {
             return true;
         }
 
-        /** Whether this line may change places with the line ahead of it, and the plan that comes out is an earlier one. */
-        private boolean stoodAhead(Road road, int depth, int deed, int bits) {
+        /** Whether a person of the line could be a twin who is as free: that plan is as good, and an earlier one. */
+        private boolean couldBeTwin(Road road, int depth, int bits) {
+            for (int person = 1; person < road.people(); person++) {
+                if ((bits >> person & 1) == 1) {
+                    for (int other = 0; other < person; other++) {
+                        if ((twins[person] & ~bits & 1 << other) != 0
+                                && peopleEnds[depth][other] == peopleEnds[depth][person]) {
+                            return true;
+                        }
+                    }
+                }
+            }
+            return false;
+        }
+
+        /** Whether the line could change places with the one ahead of it: that plan is as good, and an earlier one. */
+        private boolean couldStandAhead(Road road, int depth, int deed, int bits) {
             return depth > 0 && deed < deeds[depth - 1] && (bits & people[depth - 1]) == 0
                 && (road.deedFacts[NEEDED][deed] >> deeds[depth - 1] & 1) == 0;
         }
