@@ -21,7 +21,6 @@ public final class RainWheel {
     private static final int MOST_CAUSES = 4;
     private static final int MOST_RAINS = 6;
     private static final int MOST_CHANGES = 20;
-    private static final int MOST_IMAGES = 3;
     private static final int SOONEST_DEEDS = 5;
 
     private static final int YARDS = 60;
@@ -1123,7 +1122,7 @@ public final class RainWheel {
                     breadth += broad[board];
                 }
             }
-            return minutes * Math.max(0, load / breadth - bears[yard]);
+            return minutes * Math.max(0, load / Math.max(1, breadth) - bears[yard]);
         }
 
         /** By how many of 16 a nut comes loose. */
@@ -1643,7 +1642,7 @@ public final class RainWheel {
 
         /** Puts a line at a depth, unless it is blocked or can't lead to a plan that is better than the best. */
         private boolean place(Road road, Law law, int depth, int deed, int bits) {
-            if (couldStandAhead(road, depth, deed, bits) || couldBeTwin(road, depth, bits)) {
+            if (couldStandAhead(depth, deed, bits) || couldBeTwin(road, depth, bits)) {
                 return false;
             }
             int begin = road.earliest(deed, bits, deedEnds, peopleEnds[depth]);
@@ -1680,10 +1679,12 @@ public final class RainWheel {
             return false;
         }
 
-        /** Whether the line could change places with the one ahead of it: that plan is as good, and an earlier one. */
-        private boolean couldStandAhead(Road road, int depth, int deed, int bits) {
-            return depth > 0 && deed < deeds[depth - 1] && (bits & people[depth - 1]) == 0
-                && (road.deedFacts[NEEDED][deed] >> deeds[depth - 1] & 1) == 0;
+        /**
+         * Whether the line could change places with the one ahead of it: that plan is as good, and an earlier one.
+         * A deed of a lower number never needs the other, so only the people can keep them in their order.
+         */
+        private boolean couldStandAhead(int depth, int deed, int bits) {
+            return depth > 0 && deed < deeds[depth - 1] && (bits & people[depth - 1]) == 0;
         }
 
         private boolean isBetter(int otherSpan, int otherWet) {

@@ -431,6 +431,23 @@ public final class PlansTest {
         check.due("none", x.restore(), -1);
         check.due("again", x.image(), 1);
         x.drop(0);
+        check.due("restored", x.restore(), 0);
+        // An image keeps each change whole: its kind, its line and what was there.
+        x.hand(2, 1);
+        x.swap(0, 1);
+        x.image();
+        x.undo();
+        x.undo();
+        x.drop(0);
+        x.hand(1, 3);
+        x.restore();
+        order(x, 12, 1, 21);
+        check.due("undo the swap", x.undo(), 1);
+        order(x, 1, 12, 21);
+        check.due("undo the hand", x.undo(), 0);
+        order(x, 1, 12, 24);
+        check.due("again", x.image(), 1);
+        x.drop(0);
         check.due("a fault keeps it", Check.plan(x, "0"), -9);
         check.due("restored", x.restore(), 0);
         order(x, 1, 12, 24);

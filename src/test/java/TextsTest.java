@@ -235,6 +235,7 @@ public final class TextsTest {
         law("most[least[9,5],least[2,8]]", 5);
         law("  most [ 1 + 1 , 2 * 3 ]  ", 6);
         law("((((((5))))))", 5);
+        law("least[".repeat(6) + "9,8],7],6],5],4],3]", 3);
         law("(1)+(2)+(3)+(4)+(5)+(6)+(7)+(8)", 36);
         law("minutes+minute", 99);
         law("minutes*minutes", 49);
@@ -295,6 +296,9 @@ public final class TextsTest {
         faultOfLaw("((((((least[1,2]))))))", 3, 6);
         faultOfLaw("((((((  most", 3, 8);
         faultOfLaw("most[1,least[2,(3+(4*most[5,(6/(7))])))]]", 3, 31);
+        faultOfLaw("least[".repeat(7), 3, 36);
+        faultOfLaw("most[".repeat(6) + "(", 3, 30);
+        faultOfLaw("1+least[2*" + "(".repeat(6), 3, 15);
         faultOfLaw("((((((5)))))(", 1, 12);
         faultOfLaw("((((((mos", 1, 6);
     }

@@ -63,6 +63,11 @@ public final class ToolsTest {
         check.due("two of the least bits", y.under(0, 10, 30), 3);
         RainWheel z = Check.told("load 60;board 3;board 3;board 5;", "");
         check.due("one of higher bits ahead of two of lower", z.under(0, 10, 70), 4);
+        RainWheel all = Check.told("load 9;yard 0 1;" + "board 1;".repeat(3) + "board 2;".repeat(3), "");
+        // 9 by 10 is 0, 9 by 8 is 1: six boards keep it below 1 where nothing bears.
+        RainWheel swamp = Check.told("load 9;yard 0 0;" + "board 1;".repeat(3) + "board 2;".repeat(3), "");
+        check.due("all six", swamp.under(0, 1, 0), 63);
+        check.due("two of them", all.under(0, 1, 0), 24);
         check.improper("yard", () -> x.under(60, 0, 0));
         check.improper("yard", () -> x.under(-1, 0, 0));
         check.improper("minutes", () -> x.under(0, 241, 0));
