@@ -293,7 +293,8 @@ public final class RainWheel {
         if (line == NONE) {
             return NONE;
         }
-        followPlan();
+        course.lengthen(line, 0);
+        course.go(road, law, plan);
         if (course.begins[line] == NONE) {
             return NONE;
         }
