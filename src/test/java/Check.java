@@ -74,7 +74,7 @@ final class Check {
         refused(what, "IllegalStateException", call);
     }
 
-    private void refused(String what, String kind, LongSupplier call) {
+    void refused(String what, String kind, LongSupplier call) {
         done++;
         String got;
         try {
@@ -86,6 +86,14 @@ final class Check {
             wrong++;
             System.out.println(what + " threw " + got + ", due is " + kind);
         }
+    }
+
+    int done() {
+        return done;
+    }
+
+    int wrong() {
+        return wrong;
     }
 
     void holds(String what, boolean truth) {
