@@ -101,6 +101,27 @@ public final class ChangeEdgesTest extends Edges {
         check.due("again", both.evening(9, 2), 1);
     }
 
+    @Says(promise = 41, value = "An EVENING: 0 SPAN, 1 WET of all, 2 how many were done AGAIN")
+    void nothingOfAnEveningIsLeft() {
+        String road = "person 1;person 1;deed 3 1 1 0;deed 4 1 1 0;deed 9 0 1 0;rain 0 99;loses 16;";
+        Supplier<RainWheel> maker = () -> Check.told(road, "0 0;1 0;2 1;");
+        changesNothing("an evening", maker, 18, x -> x.evening(1, 0));
+        changesNothing("evenings", maker, 720, x -> x.evenings(1, 40, 2));
+        RainWheel x = maker.get();
+        Call[] calls = {RainWheel::span, y -> y.line(1, 4), y -> y.wet(0), y -> y.idle(0), RainWheel::umbrella, y -> y.slack(0), y -> y.slack(2),
+            RainWheel::urgent, y -> y.soonest(0)};
+        long[] due = {9, 7, 7, 2, 0, 2, 0, 4, 9};
+        for (int k = 0; k < calls.length; k++) {
+            x.evening(k, 0);
+            check.due("behind an evening: call " + k, calls[k].applyAsLong(x), due[k]);
+            x.slack(0);
+            check.due("behind a slack: call " + k, calls[k].applyAsLong(x), due[k]);
+        }
+        x.slack(0);
+        check.due("an evening behind a slack", x.evening(1, 0), 18);
+        check.due("its wet", x.evening(1, 1), 14);
+    }
+
     @Says(promise = 42, value = "Of so many SEEDS (1 to 40; seed, seed and 1, ..): 0 the least SPAN, 1 the greatest, 2 all together, 3 by how many none was done AGAIN")
     void evenings() {
         range("evenings many", 1, 40, (x, many) -> x.evenings(1, many, 0));

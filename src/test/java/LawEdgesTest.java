@@ -96,6 +96,9 @@ public final class LawEdgesTest extends Edges {
         lasts("0".repeat(148) + "42", 42);
         faulty("0".repeat(146) + "1000", 2, 0);
         faulty("1000+x", 2, 0);
+        for (String digits : new String[] {"9990", "9999", "10000", "99900", "999000000000000000000", "1000000000000000000999"}) {
+            faulty(digits, 2, 0);
+        }
         faulty("2*least[5,1000]", 2, 10);
     }
 
@@ -267,7 +270,7 @@ public final class LawEdgesTest extends Edges {
         lasts("strong", 11);
         lasts("rain*5", 5);
         lasts("out*5+3", 3);
-        for (String word : new String[] {"minutess", "minut", "hand", "handsout", "strongs", "rains", "ou", "outs", "leasts", "mos", "Out", "deed"}) {
+        for (String word : new String[] {"minutess", "minut", "hand", "handsout", "strongs", "rains", "ou", "outs", "leasts", "mos", "Out", "deed", "outz", "outa", "zout"}) {
             faulty(word, 1, 0);
             faulty("1+ " + word, 1, 3);
         }

@@ -194,7 +194,11 @@ public final class PlanEdgesTest extends Edges {
         check.due("12", Check.told("person 1;person 1;person 2;person 2;deed 1 0 2 4;", "").first(0), 12);
         // Wet of all together: two who are out together count twice.
         check.due("twice", Check.told("person 1;person 1;deed 3 1 2 0;rain 1 1;", "").soonest(1), 2);
-        // Bits 6 (people 1 and 2) stand ahead of 8 (person 3 alone) in no deed, but bits 4 ahead of 8.
+        // As soon and as wet, though only in their last lines: the first.
+        RainWheel w = Check.told("person 1;deed 1 1 1 0;deed 1 1 1 0;rain 1 1;", "");
+        check.due("wet in the second minute", w.soonest(1), 1);
+        check.due("the first", w.first(0), 1);
+        check.due("and the second", w.first(1), 101);
         check.due("the first who can", Check.told("person 1;person 1;person 7;person 8;deed 1 0 1 7;", "").first(0), 4);
     }
 
@@ -266,6 +270,8 @@ public final class PlanEdgesTest extends Edges {
         check.due("the wettest", Check.told(road, "2 0;0 3;").umbrella(), 3);
         check.due("of these the first", Check.told(road, "2 0;0 3;1 1;").umbrella(), 1);
         check.due("whatever their lines' order", Check.told(road, "1 2;0 1;").umbrella(), 1);
+        check.due("the first of all", Check.told(road, "2 1;0 0;1 3;").umbrella(), 0);
+        check.due("the last of all", Check.told(road, "2 1;0 3;").umbrella(), 3);
         check.due("who is not out stays dry", Check.told(road, "3 0;").umbrella(), RainWheel.NONE);
         check.due("one minute is enough", Check.told("person 1;person 1;deed 1 1 1 0;rain 0 0;", "0 1;").umbrella(), 1);
         check.due("just too early", Check.told("person 1;person 1;deed 1 1 1 0;rain 1 1;", "0 1;").umbrella(), RainWheel.NONE);
@@ -391,6 +397,20 @@ public final class PlanEdgesTest extends Edges {
         Check.road(x, "person 1;person 1;deed 2 0 2 0;");
         check.due("and one more", x.soonest(0), 2);
         check.due("no plan is told by it", x.told(5), 0);
+        // None behind one that was: neither its wet nor its lines are left.
+        Check.road(x, "person 1;deed 2 1 1 0;rain 0 9;");
+        check.due("wet", x.soonest(1), 2);
+        Check.road(x, "person 1;deed 2 1 2 0;rain 0 9;");
+        check.due("no wet", x.soonest(1), RainWheel.NONE);
+        check.due("no span", x.soonest(0), RainWheel.NONE);
+        check.due("no line", x.first(0), RainWheel.NONE);
+        RainWheel y = Check.told("person 6;person 2;deed 4 0 1 0;", "");
+        Check.law(y, "strong");
+        check.due("the weak one is sooner", y.soonest(0), 2);
+        check.due("so not the first", y.first(0), 2);
+        Check.law(y, "hands");
+        check.due("both are as soon", y.soonest(0), 1);
+        check.due("so the first", y.first(0), 1);
     }
 
     @Says(promise = 24, value = "Of SOONEST's k-th line (0 to DEEDS less 1): 100 times the DEED, and its PEOPLE (bits); NONE likewise")

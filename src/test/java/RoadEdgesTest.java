@@ -349,6 +349,9 @@ public final class RoadEdgesTest extends Edges {
 
     @Says("WORDS: small letters, as many as stand there")
     void words() {
+        faulty("loada 1;", 1, 0);
+        faulty("loadz 1;", 1, 0);
+        faulty("zload 1;", 1, 0);
         faulty("loadx 1;", 1, 0);
         faulty("loads 1;", 1, 0);
         faulty("loa 1;", 1, 0);

@@ -130,6 +130,49 @@ public final class TextCallsEdgesTest extends Edges {
         }
     }
 
+    @Says(promise = 3, value = "The first n bytes of the TAPE (empty then) are the ROAD")
+    void nothingOfRoadsBefore() {
+        StringBuilder full = new StringBuilder("person 9;".repeat(4) + "deed 3 1 2 4;".repeat(5)
+            + "needs 1 0;needs 2 1;needs 4 3;rain 0 240;");
+        for (int yard = 0; yard < 10; yard++) {
+            full.append("yard ").append(yard).append(" 20;");
+        }
+        full.append("board 9;".repeat(6)).append("nut 0;".repeat(8)).append("cause 9 8 16 8;cause 9 8 0 8;".repeat(2)).append("load 9;stops 9;loses 9;soft 9 9;");
+        String few = "person 1;" + "deed 1 0 1 0;".repeat(4) + "board 1;nut 1;cause 1 1 1 1;";
+        // Again and again, sound or not: of those before, nothing is left in the one that is told then.
+        for (int rounds = 1; rounds <= 3; rounds++) {
+            for (String tail : new String[] {"", "x", "load 0;"}) {
+                RainWheel x = new RainWheel();
+                for (int k = 0; k < rounds; k++) {
+                    check.due("a full road", Check.road(x, full + tail), tail.isEmpty() ? 5 : tail.equals("x") ? -9 : -8);
+                }
+                check.due("one with few", Check.road(x, few), 4);
+                same("as if it were the first", x, Portrait.of(toldRoad(few)));
+                RainWheel y = new RainWheel();
+                for (int k = 0; k < rounds; k++) {
+                    Check.road(y, full + tail);
+                    Check.road(y, few);
+                }
+                check.due("nothing to know by a cause of before", y.ask(), 0);
+                check.due("nor is one likely", y.likeliest(), 0);
+                check.due("no nut of before", y.easiest(1), 0);
+                for (int yard = 0; yard < 60; yard++) {
+                    check.due("bears " + yard, y.bears(yard), 3);
+                }
+                for (int minute = 0; minute <= 240; minute++) {
+                    check.holds("dry in " + minute, !y.rains(minute));
+                }
+                for (int deed = 0; deed < 4; deed++) {
+                    check.due("needs nothing: " + deed, y.deed(deed, 4) + y.ahead(deed), 0);
+                }
+            }
+        }
+    }
+
+    private static RainWheel toldRoad(String road) {
+        return Check.told(road, "");
+    }
+
     @Says(promise = 3, value = "or the FAULT less 10 (all stays)")
     void aFaultyRoadKeepsAll() {
         String[] texts = {"load", "load 0;", "person 1;".repeat(5), "deed 1 0 1 0;".repeat(13), ROAD + "x", "load 7;".repeat(61)};
