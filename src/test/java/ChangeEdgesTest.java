@@ -45,7 +45,7 @@ public final class ChangeEdgesTest extends Edges {
         check.due("seed 1 draws 16838, by 16 6", draws(1, 1)[0], 6);
     }
 
-    @Says("behind each line that is not BLOCKED DRAW by 16 below Q of \"loses\"")
+    @Says("An EVENING by a SEED: the PLAN as told, but behind each line that is not BLOCKED DRAW by 16 below Q of \"loses\"")
     void belowQ() {
         // Seed 1 draws 6 first: below 7, not below 6.
         for (int loses = 0; loses <= 16; loses++) {

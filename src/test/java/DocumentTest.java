@@ -7,7 +7,8 @@ import java.util.regex.Pattern;
 
 /**
  * The tests of edges against the document itself: what they quote stands there, word for word; every promise has one;
- * and every place in which the document names an edge stands in what some test quotes.
+ * every place in which the document names an edge stands in what some test quotes; and of the Terms and the promises
+ * nothing is left that no test quotes.
  */
 public final class DocumentTest {
     private static final Class<?>[] TESTS = {RoadEdgesTest.class, LawEdgesTest.class, PlanAndBookEdgesTest.class,
@@ -18,6 +19,9 @@ public final class DocumentTest {
     private static final Pattern EDGE = Pattern.compile("\\d+ to \\d+(,\\d+)?|\\d+ or \\d+|\\(\\d, \\d\\)|(n|k) to \\d+|n \\d+ to \\d+|at most|at least|up to"
         + "|\\bno more|no less|less than|no later|no deeper|nothing|more than|NONE|-1:|0:|Exception|without|twice|is once|wrap|cut|empty|stays|doing nothing"
         + "|the first\\b|the last counts|the least|the fewest|7th|too many|too early|below|none can|by 0|all SIGNS|others|gone|begun|or more");
+
+    /** What joins the sentences of the Terms, and says nothing by itself. */
+    private static final Pattern JOINT = Pattern.compile("(\\W|\\bor\\b|\\bCLAUSE:|==== \\d)*");
 
     private final Check check = new Check();
 
@@ -65,6 +69,7 @@ public final class DocumentTest {
         for (int k = 0; k <= PROMISES; k++) {
             check.holds("a test of edges for promise " + k, tests[k] > 0);
             look(k, sections[k], quoted[k]);
+            lookForTheRest(k, sections[k], quoted[k]);
         }
     }
 
@@ -82,6 +87,17 @@ public final class DocumentTest {
             String near = section.substring(Math.max(0, edge.start() - 30), Math.min(section.length(), edge.end() + 30));
             check.holds("a test quotes '" + edge.group() + "' in promise " + promise + ": .." + near + "..",
                 quoted.nextClearBit(edge.start()) >= edge.end());
+        }
+    }
+
+    private void lookForTheRest(int promise, String section, BitSet quoted) {
+        int from = quoted.nextClearBit(0);
+        while (from < section.length()) {
+            int next = quoted.nextSetBit(from);
+            int to = next < 0 ? section.length() : next;
+            String rest = section.substring(from, to);
+            check.holds("a test quotes '" + rest + "' in promise " + promise, JOINT.matcher(rest).matches());
+            from = quoted.nextClearBit(to);
         }
     }
 }

@@ -71,7 +71,7 @@ public final class LawEdgesTest extends Edges {
         check.due("without again", x.would(7, 1, 1, 1, 1, 1), 7);
     }
 
-    @Says("what comes out, 1 at least, 99 at most")
+    @Says("LASTS: how many MINUTES a DEED lasts: what comes out, 1 at least, 99 at most")
     void atLeastOneAtMost99() {
         int[][] outcomes = {{0, 1}, {1, 1}, {2, 2}, {98, 98}, {99, 99}, {100, 99}, {999, 99}};
         for (int[] outcome : outcomes) {
@@ -122,6 +122,26 @@ public final class LawEdgesTest extends Edges {
         }
         faulty("1%1", 1, 1);
         faulty("1^1", 1, 1);
+    }
+
+    @Says({"\"minutes\" (M), \"hands\" (H)", "\"out\" (O)"})
+    void factsOfTheDeed() {
+        // By 2 hands, out, 7 minutes; by 1 hand, not out, 30 minutes: each fact is that of the line's own deed.
+        RainWheel x = Check.told("person 3;person 4;deed 7 1 2 0;deed 30 0 1 0;", "0 0 1;1 0;");
+        String[] words = {"minutes", "hands", "out+1", "minutes*hands+out"};
+        int[][] due = {{7, 30}, {2, 1}, {2, 1}, {15, 30}};
+        for (int k = 0; k < words.length; k++) {
+            Check.law(x, words[k]);
+            check.due(words[k] + " of deed 0", x.line(0, 4), due[k][0]);
+            check.due(words[k] + " of deed 1", x.line(1, 4) - x.line(1, 3), due[k][1]);
+            check.due(words[k] + " would", x.would(7, 2, 5, 0, 9, 1), due[k][0]);
+        }
+        faulty("minutess", 1, 0);
+        faulty("minut", 1, 0);
+        faulty("2*hand", 1, 2);
+        faulty("2*outs", 1, 2);
+        faulty("Minutes", 1, 0);
+        faulty("minutes hands", 1, 8);
     }
 
     @Says("\"rain\" (1, if it rains in the MINUTE in which it begins and it is out, else 0)")

@@ -23,7 +23,7 @@ public final class PlanEdgesTest extends Edges {
 
     // ---- the Terms ----
 
-    @Says("a DEED is BLOCKED, if its line has not just H PEOPLE")
+    @Says("By a PLAN, line by line: a DEED is BLOCKED, if its line has not just H PEOPLE")
     void notJustHPeople() {
         String people = "person 9;person 9;";
         blocked(people + "deed 1 0 1 0;", "0 0;", 0);
@@ -264,7 +264,7 @@ public final class PlanEdgesTest extends Edges {
         check.due("blocked", Check.told("person 1;person 1;deed 9 0 2 0;deed 4 0 1 0;", "0 0;1 1;").idle(0), 4);
     }
 
-    @Says(promise = 18, value = "the one who is WETTEST, of these the first; NONE: nobody gets wet")
+    @Says(promise = 18, value = "Who is to be held the umbrella over: the one who is WETTEST, of these the first; NONE: nobody gets wet")
     void umbrella() {
         String road = "person 1;person 1;person 1;person 1;deed 3 1 1 0;deed 3 1 1 0;deed 2 1 1 0;deed 4 0 1 0;rain 0 9;";
         check.due("the wettest", Check.told(road, "2 0;0 3;").umbrella(), 3);

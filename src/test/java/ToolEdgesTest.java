@@ -124,7 +124,7 @@ public final class ToolEdgesTest extends Edges {
 
     // ---- tries, waits: promises 28 to 32 ----
 
-    @Says("it comes loose by 2 s less RUST of 16 (0 at least, 16 at most)")
+    @Says("A TRY at a NUT by STRENGTH s: it comes loose by 2 s less RUST of 16 (0 at least, 16 at most)")
     void aTry() {
         RainWheel x = road("nut 0;nut 1;nut 15;");
         fraction("0 of 16", x.tries(0, 1, 0, 0), x.tries(0, 1, 0, 1), 0, 1);
@@ -191,7 +191,8 @@ public final class ToolEdgesTest extends Edges {
         check.due("the eighth", road("nut 15;".repeat(7) + "nut 0;").easiest(3), 7);
     }
 
-    @Says("in each of w MINUTES a car stops as told: then h more; else, behind them, m: the mean of all MINUTES")
+    @Says("WAIT w MINUTES, m to do it then, h if a car has stopped: in each of w MINUTES a car stops as told: then h more;"
+        + " else, behind them, m: the mean of all MINUTES")
     void waiting() {
         RainWheel half = road("stops 8;");
         // One minute: half 1 and h, half 1 and m; two: half 1 and h, a quarter 2 and h, a quarter 2 and m.
